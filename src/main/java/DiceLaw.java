@@ -85,10 +85,12 @@ public final class DiceLaw {
     }
 
     public int text(int sort) {
-        if (fault(sort) != NONE) {
-            return NONE;
+        int number = NONE;
+        if (sort == 0) {
+            number = takeLaw();
+        } else if (sort == 1) {
+            number = takeRule();
         }
-        int number = sort == 0 ? takeLaw() : takeRule();
         if (number != NONE) {
             tape.length = 0;
         }
@@ -96,7 +98,7 @@ public final class DiceLaw {
     }
 
     private int takeLaw() {
-        if (book.laws >= LAWS || diary.days > 0) {
+        if (lawReader.read(tape) != NONE || book.laws >= LAWS || diary.days > 0) {
             return NONE;
         }
         book.add(lawReader.clauses);
@@ -105,7 +107,7 @@ public final class DiceLaw {
 
     private int takeRule() {
         Text rule = ruleCount >= 0 && ruleCount < rules.length ? rules[ruleCount] : null;
-        if (rule == null) {
+        if (rule == null || ruleReader.read(tape, letters) != NONE) {
             return NONE;
         }
         rule.take(tape);
@@ -364,7 +366,8 @@ public final class DiceLaw {
     }
 
     private long chance(int sort, int one, int other) {
-        throwTomorrow();
+        tomorrow.load(book, diary);
+        tomorrow.toss();
         return chances.ask(sort, one, other);
     }
 
@@ -773,8 +776,10 @@ public final class DiceLaw {
 
     private static int byHowMany(int[] holding, int from, int laws, int clause) {
         int many = 0;
-        for (int law = 0; law < laws; law++) {
-            many += bit(at(holding, from + law) == clause);
+        for (int i = from; i < from + laws; i++) {
+            if (i >= 0 && i < holding.length && holding[i] == clause) {
+                many++;
+            }
         }
         return many;
     }
@@ -828,13 +833,21 @@ public final class DiceLaw {
             if (fault != NONE || text == null) {
                 return NO_SIGN;
             }
-            for (; place < text.length && at(text.signs, place) == ' '; place++) {
+            int[] signs = text.signs;
+            for (; place >= 0 && place < text.length && place < signs.length; place++) {
+                if (signs[place] != ' ') {
+                    return signs[place];
+                }
             }
-            return here();
+            return NO_SIGN;
         }
 
+        /** The sign that stands here, a blank too: digits of one number have none between. */
         private int here() {
-            return text != null && place < text.length ? at(text.signs, place) : NO_SIGN;
+            if (text == null || place < 0 || place >= text.length || place >= text.signs.length) {
+                return NO_SIGN;
+            }
+            return text.signs[place];
         }
 
         private void step() {
@@ -845,12 +858,14 @@ public final class DiceLaw {
             if (peek() != sign) {
                 return false;
             }
-            step();
+            place++;
             return true;
         }
 
         private void need(int sign) {
-            if (!accept(sign)) {
+            if (peek() == sign) {
+                place++;
+            } else {
                 fail();
             }
         }
@@ -868,7 +883,7 @@ public final class DiceLaw {
                 fail();
                 return 0;
             }
-            step();
+            place++;
             return sign - first;
         }
 
@@ -1524,7 +1539,12 @@ public final class DiceLaw {
         /** The DIE of this LAW and the later ones lie in the end. */
         private void lay(int law, int index, long ways, long typeWays) {
             if (law >= tomorrow.laws) {
-                note(at(tomorrow.ends, index), ways, typeWays);
+                long all = typeWays == 0 ? 0 : at(tomorrow.ends, index) / typeWays * ways;
+                if (sort == ASK_FACES) {
+                    noteFaces(all);
+                } else if (all > 0) {
+                    note(all, isMet() ? all : 0);
+                }
                 return;
             }
             int step = at(tomorrow.steps, law);
@@ -1537,16 +1557,7 @@ public final class DiceLaw {
             }
         }
 
-        private void note(long ends, long ways, long typeWays) {
-            if (typeWays == 0 || ends == 0) {
-                return;
-            }
-            long all = ends / typeWays * ways;
-            if (sort == ASK_FACES) {
-                noteFaces(all);
-                return;
-            }
-            long metNow = isMet() ? all : 0;
+        private void note(long all, long metNow) {
             met += metNow;
             for (int law = 0; law < tomorrow.laws; law++) {
                 raise(allOf, law * FACES + at(lies, law), all);
