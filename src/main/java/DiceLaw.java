@@ -30,6 +30,7 @@ public final class DiceLaw {
     private static final int ASK_FREE = 4;
     private static final int ASK_HOLDS = 5;
     private static final int ASK_FACES = 6;
+    private static final int ASK_GIVEN = 7;
 
     private final Text tape = new Text();
     private final Text[] rules = new Text[RULES];
@@ -306,7 +307,7 @@ public final class DiceLaw {
         if (!book.has(law, face) || !isDeed(deed) || !isPart(part)) {
             return NONE;
         }
-        chance(ASK_LAWFUL, deed, deed);
+        chance(ASK_GIVEN, deed, deed);
         return fraction(chances.metBy(law, face), chances.allBy(law, face), part);
     }
 
@@ -314,7 +315,7 @@ public final class DiceLaw {
         if (book.laws == 0 || !isDeed(deed)) {
             return NONE;
         }
-        chance(ASK_LAWFUL, deed, deed);
+        chance(ASK_GIVEN, deed, deed);
         int worst = NONE;
         long above = 0;
         long below = 0;
@@ -1437,19 +1438,32 @@ public final class DiceLaw {
 
         /** The next DIE is thrown again, if one is. */
         private void turn(int done, int thrown, int index, long ways) {
-            int law = thrown < THROWS_AGAIN ? lowest(aims, laws, done) : NONE;
+            int law = lowest(aims, laws, done);
             if (law == NONE) {
                 rest(thrown, index, ways);
                 return;
             }
             int die = at(aims, law);
             int before = at(lies, die);
+            int lowered = index - before * at(steps, die);
+            if (thrown + 1 >= THROWS_AGAIN) {
+                lastTurn(die, lowered, ways);
+                return;
+            }
             int doneNow = (done | 1 << law) & ~(1 << die);
             for (int type = 0; type < at(types.many, die); type++) {
                 lay(die, type);
-                turn(doneNow, thrown + 1, index + (type - before) * at(steps, die), ways * types.shareOf(die, type));
+                turn(doneNow, thrown + 1, lowered + type * at(steps, die), ways * types.shareOf(die, type));
             }
             lay(die, before);
+        }
+
+        /** The last time that a DIE may be thrown again: whatever it shows, nothing follows. */
+        private void lastTurn(int die, int lowered, long ways) {
+            for (int type = 0; type < at(types.many, die); type++) {
+                raise(ends, lowered + type * at(steps, die), ways * types.shareOf(die, type));
+            }
+            raise(byThrown, THROWS_AGAIN, ways * TOGETHER);
         }
 
         private void lay(int law, int type) {
@@ -1533,7 +1547,15 @@ public final class DiceLaw {
                 return clause == other ? other : another;
             }
             int deed = clause % 10;
-            return clause >= MAY && (deed == one || deed == other) ? clause : 0;
+            return clause >= MAY && (deed == one || deed == other) && bears(clause) ? clause : 0;
+        }
+
+        /** Whether a question on a DEED turns on whether it MAY, MUST NOT or MUST be done. */
+        private boolean bears(int clause) {
+            if (sort == ASK_MUST) {
+                return true;
+            }
+            return sort == ASK_FORBIDDEN ? clause >= MUST_NOT && clause < MUST : clause < MUST;
         }
 
         /** The DIE of this LAW and the later ones lie in the end. */
@@ -1559,6 +1581,9 @@ public final class DiceLaw {
 
         private void note(long all, long metNow) {
             met += metNow;
+            if (sort != ASK_GIVEN) {
+                return;
+            }
             for (int law = 0; law < tomorrow.laws; law++) {
                 raise(allOf, law * FACES + at(lies, law), all);
                 raise(metOf, law * FACES + at(lies, law), metNow);
