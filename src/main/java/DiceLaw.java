@@ -15,6 +15,8 @@ public final class DiceLaw {
     private static final int BYTES = 120;
     private static final int THROWS_AGAIN = 3;
     private static final int TOGETHER = 12;
+    /** FACES to the power of LAWS: so many ways there are for all DICE to lie. */
+    private static final int ALL_FACES = 7776;
 
     private static final int MAY = 10;
     private static final int MUST_NOT = 20;
@@ -1366,7 +1368,7 @@ public final class DiceLaw {
         private final int[] steps = new int[LAWS];
         private final int[] lies = new int[LAWS];
         private final int[] aims = new int[LAWS];
-        private final long[] ends = new long[7776];
+        private final long[] ends = new long[ALL_FACES];
         private final long[] byThrown = new long[THROWS_AGAIN + 1];
 
         private void load(Book book, Diary diary) {
@@ -1393,10 +1395,6 @@ public final class DiceLaw {
                 total *= TOGETHER;
             }
             return total;
-        }
-
-        private int weightOf(int law, int face) {
-            return at(weights, law * FACES + face);
         }
 
         private int showsOn(int law, int face) {

@@ -65,6 +65,12 @@ public final class AmendTest {
         t.weigh(1, 0, 0, 0, 0, 1, 11);
         Due.is("P31 the next LAW", t.help(0, 0), 1400);
         Due.is("P31 by 1 of 12", t.help(0, 1), 20736);
+        DiceLaw n = Due.with("na,na,na,na,na,na", "na,na,na,na,na,na");
+        Due.is("P31 never LAWFUL all the same", n.help(0, 0), 0);
+        Due.is("P31 by nothing all the same", n.help(0, 1), 0);
+        DiceLaw worse = Due.with("c1,c1,c1,c1,c1,c1", "ma,ma,ma,ma,ma,ma", "na,na,na,na,na,na");
+        Due.is("P31 what is so already", worse.help(0, 0), 10);
+        Due.is("P31 by nothing, with MAY", worse.help(0, 1), 0);
         Due.is("P31 no such DEED", x.help(6, 0), Due.HIDDEN);
         Due.is("P31 no such DEED", x.help(-1, 0), Due.HIDDEN);
         Due.is("P31 no such what", x.help(0, 2), Due.HIDDEN);

@@ -102,8 +102,8 @@ public final class FaceTest {
             }
         }
         Due.is("one throw", throwing, 1);
-        Matcher method = Pattern.compile("(?m)^( {4}| {8})(public|private)(?![^\\n]*\\bclass\\b)[^;=]*?\\{\n(.*?)^\\1\\}", Pattern.DOTALL)
-                .matcher(source);
+        String header = "(?m)^( {4}| {8})(public|private)(?![^\\n]*\\bclass\\b)[^;=]*?\\{\n";
+        Matcher method = Pattern.compile(header + "(.*?)^\\1\\}", Pattern.DOTALL).matcher(source);
         int methods = 0;
         while (method.find()) {
             methods++;
@@ -113,9 +113,20 @@ public final class FaceTest {
         Due.is("the methods were found", methods > 100, true);
     }
 
+    private static void everyPromiseIsAsked() throws IOException {
+        StringBuilder tests = new StringBuilder();
+        for (String name : new String[] {"Text", "Dawn", "Odds", "Suit", "Amend", "Rule"}) {
+            tests.append(Files.readString(Path.of("src/test/java/" + name + "Test.java")));
+        }
+        for (int promise = 1; promise <= 45; promise++) {
+            Due.is("a test by hand for promise " + promise, tests.indexOf("\"P" + promise + " ") >= 0, true);
+        }
+    }
+
     public static void main(String[] args) throws IOException, ReflectiveOperationException {
         face();
         file();
+        everyPromiseIsAsked();
         Due.close("FaceTest");
     }
 }

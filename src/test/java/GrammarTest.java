@@ -356,7 +356,8 @@ public final class GrammarTest {
         StringBuilder s = new StringBuilder(text);
         for (int i = random.nextInt(3); i > 0; i--) {
             int p = random.nextInt(s.length() + 1);
-            char c = random.nextInt(20) == 0 ? (char) (1 + random.nextInt(255)) : signs.charAt(random.nextInt(signs.length()));
+            char sign = signs.charAt(random.nextInt(signs.length()));
+            char c = random.nextInt(20) == 0 ? (char) (1 + random.nextInt(255)) : sign;
             int how = random.nextInt(4);
             if (how == 0 || p == s.length()) {
                 s.insert(p, c);

@@ -74,6 +74,12 @@ public final class SuitTest {
         }
         Due.is("P27 even at first", x.named(0, 5, 1), 1);
         Due.is("P27 even is not twice even", x.named(0, 5, 2), 0);
+        DiceLaw even = Due.with(LAW);
+        for (int face = 0; face < 6; face++) {
+            even.told(face);
+            Due.is("P26 2 each at first", even.named(0, 1, 1), 1);
+            Due.is("P26 no more than 2 each at first", even.named(0, 1, 2), 0);
+        }
         Due.is("P26 suspect", x.suspect(1, 6, 3, 0, 2, 0), true);
         // of the latest: 6, 3, 6, 6, 1 against 2 each
         int[] most = {3, 4, 13, 40, 20};
