@@ -7,6 +7,7 @@ final class Due {
 
     private static int asked = 0;
     private static int wrong = 0;
+    private static int typed = 0;
 
     private Due() {
     }
@@ -17,6 +18,11 @@ final class Due {
             wrong++;
             System.out.println(what + ": answered " + got + ", due is " + want);
         }
+    }
+
+    /** How many calls were made so far, if each answer was asked for by one: an object is used for 512 at most. */
+    static int calls() {
+        return asked + typed;
     }
 
     static void is(String what, boolean got, boolean want) {
@@ -36,7 +42,9 @@ final class Due {
     /** Puts these bytes, none of them 0, on the emptied TAPE. */
     static void type(DiceLaw x, String text) {
         x.end(0);
+        typed++;
         for (int i = 0; i < text.length(); i += 20) {
+            typed++;
             String piece = text.substring(i, Math.min(text.length(), i + 20));
             x.feed(number(piece, 0), number(piece, 4), number(piece, 8), number(piece, 12), number(piece, 16));
         }
@@ -63,6 +71,7 @@ final class Due {
 
     static int rule(DiceLaw x, String rule) {
         type(x, rule);
+        typed++;
         return x.text(1);
     }
 

@@ -1,5 +1,6 @@
 import java.math.BigInteger;
 import java.util.ArrayList;
+import java.util.Collections;
 import java.util.List;
 import java.util.Random;
 
@@ -279,6 +280,7 @@ public final class ModelTest {
     private final int most;
     private final int throwing;
     private final int deeds;
+    private final int callsAhead = Due.calls();
 
     private ModelTest(long seed) {
         random = new Random(seed);
@@ -348,12 +350,21 @@ public final class ModelTest {
         }
     }
 
+    private int callsLeft() {
+        return 500 - (Due.calls() - callsAhead);
+    }
+
+    /** First changes for the most part, then what is asked, then all of the DIARY, as far as 512 calls go. */
     private void steps() {
         for (int i = 0; i < most; i++) {
             law();
         }
-        for (int i = 0; i < 120; i++) {
-            step(random.nextInt(34));
+        int changes = random.nextInt(120);
+        for (int i = 0; i < changes && callsLeft() > 250; i++) {
+            step(random.nextInt(random.nextInt(4) == 0 ? 28 : 19));
+        }
+        while (callsLeft() > 200) {
+            step(12 + random.nextInt(16));
         }
         everything();
     }
@@ -759,31 +770,49 @@ public final class ModelTest {
         Due.is("P45 laws", x.count(0), m.laws.size());
         Due.is("P45 dawns", x.count(3), m.dawns.size());
         Due.is("P45 deeds", x.count(4), m.acts());
+        List<Runnable> checks = new ArrayList<>();
         for (int i = 0; i < m.laws.size(); i++) {
-            for (int f = 0; f < 6; f++) {
-                Due.is("P6 clause", x.clause(i, f), m.laws.get(i)[f]);
-                Due.is("P8 weight", x.weight(i, f), m.weights.get(i)[f]);
-            }
+            law(i, checks);
         }
         for (int t = 0; t < m.dawns.size(); t++) {
-            Dawn d = m.dawns.get(t);
-            Due.is("P13 faces", x.day(t, 0), Model.digits(d.faces));
-            Due.is("P13 again", x.day(t, 1), d.again);
-            for (int i = 0; i < m.laws.size(); i++) {
-                Due.is("P14 held", x.held(i, t), d.held[i]);
-            }
-            for (int deed = 0; deed < 6; deed++) {
-                Due.is("P15 lawful", x.deed(deed, t, 0), Model.lawful(d.held, deed) ? 1 : 0);
-                Due.is("P15 must", x.deed(deed, t, 1), Model.must(d.held, deed) ? 1 : 0);
-                for (int k = 1; k <= 3; k++) {
-                    Due.is("P15 by", x.deed(deed, t, k + 1), Model.by(d.held, 10 * k + deed));
-                }
+            day(t, checks);
+        }
+        Collections.shuffle(checks, random);
+        for (int i = 0; i < checks.size() && callsLeft() > 0; i++) {
+            checks.get(i).run();
+        }
+    }
+
+    private void law(int i, List<Runnable> checks) {
+        for (int face = 0; face < 6; face++) {
+            int f = face;
+            checks.add(() -> Due.is("P6 clause", x.clause(i, f), m.laws.get(i)[f]));
+            checks.add(() -> Due.is("P8 weight", x.weight(i, f), m.weights.get(i)[f]));
+        }
+    }
+
+    private void day(int t, List<Runnable> checks) {
+        Dawn d = m.dawns.get(t);
+        checks.add(() -> Due.is("P13 faces", x.day(t, 0), Model.digits(d.faces)));
+        checks.add(() -> Due.is("P13 again", x.day(t, 1), d.again));
+        for (int law = 0; law < m.laws.size(); law++) {
+            int i = law;
+            checks.add(() -> Due.is("P14 held", x.held(i, t), d.held[i]));
+        }
+        for (int each = 0; each < 6; each++) {
+            int deed = each;
+            checks.add(() -> Due.is("P15 lawful", x.deed(deed, t, 0), Model.lawful(d.held, deed) ? 1 : 0));
+            checks.add(() -> Due.is("P15 must", x.deed(deed, t, 1), Model.must(d.held, deed) ? 1 : 0));
+            for (int k = 1; k <= 3; k++) {
+                int clause = 10 * k + deed;
+                int what = k + 1;
+                checks.add(() -> Due.is("P15 by", x.deed(deed, t, what), Model.by(d.held, clause)));
             }
         }
     }
 
     public static void main(String[] args) {
-        int runs = args.length > 0 ? Integer.parseInt(args[0]) : 400;
+        int runs = args.length > 0 ? Integer.parseInt(args[0]) : 1500;
         for (int seed = 1; seed <= runs; seed++) {
             new ModelTest(seed).steps();
         }

@@ -1,8 +1,10 @@
+import java.util.ArrayList;
+import java.util.List;
 import java.util.Random;
 
 /**
  * What is refused changes nothing, and no arguments make a call throw but clause(): calls with numbers from the edges
- * in all states.
+ * in all states. Each object is made anew by the calls that were not refused, as 512 calls are its end.
  */
 public final class RefusalTest {
     private static final int[] EDGES = {-1, 0, 1, 2, 3, 4, 5, 6, 7, 9, 10, 12, 15, 16, 20, 25, 26, 30, 35, 36, 40, 44,
@@ -29,7 +31,9 @@ public final class RefusalTest {
             s.append(x.count(what)).append(' ');
         }
         s.append(x.fault(0)).append(' ').append(x.fault(1)).append('/');
-        for (int law = 0; law < x.count(0); law++) {
+        int laws = x.count(0);
+        int days = x.count(3);
+        for (int law = 0; law < laws; law++) {
             for (int face = 0; face < 6; face++) {
                 s.append(x.clause(law, face)).append(':').append(x.weight(law, face)).append(' ');
             }
@@ -37,9 +41,9 @@ public final class RefusalTest {
                 s.append(x.named(law, dawns, 1)).append(x.named(law, dawns, 3));
             }
         }
-        for (int day = 0; day < x.count(3); day++) {
+        for (int day = 0; day < days; day++) {
             s.append(x.day(day, 0)).append(',').append(x.day(day, 1)).append(' ');
-            for (int law = 0; law < x.count(0); law++) {
+            for (int law = 0; law < laws; law++) {
                 s.append(x.held(law, day)).append(' ');
             }
         }
@@ -55,35 +59,41 @@ public final class RefusalTest {
         return s.toString();
     }
 
-    /** A call that changes something; the answer it gives when it is refused is told apart as 0, else 1. */
-    private int changing(DiceLaw x) {
+    private Edge.Call changing() {
+        int a = any();
+        int b = any();
+        int low = low();
+        int law = low();
+        int face = low();
+        int last = random.nextInt();
+        int seldom = random.nextInt(4);
         switch (random.nextInt(13)) {
             case 0:
-                return x.feed(any(), any() << 8, any() << 16, random.nextInt(), 0) == -1 ? 0 : 1;
+                return x -> x.feed(a, b << 8, a << 16, last, 0) == -1 ? 0 : 1;
             case 1:
-                return x.end(any()) ? 1 : 0;
+                return x -> x.end(a) ? 1 : 0;
             case 2:
-                return x.text(low()) == -1 ? 0 : 1;
+                return x -> x.text(low) == -1 ? 0 : 1;
             case 3:
-                return x.weigh(low(), any(), any(), any(), 2, 2, 2) ? 1 : 0;
+                return x -> x.weigh(law, a, b, low, face, 2, 2) ? 1 : 0;
             case 4:
-                return x.dawn() == -1 ? 0 : 1;
+                return x -> x.dawn() == -1 ? 0 : 1;
             case 5:
-                return x.told(any()) == -1 ? 0 : 1;
+                return x -> x.told(a) == -1 ? 0 : 1;
             case 6:
-                return random.nextInt(4) > 0 || x.undo() == -1 ? 0 : 1;
+                return x -> seldom > 0 || x.undo() == -1 ? 0 : 1;
             case 7:
-                return x.act(low(), low(), low()) == -1 ? 0 : 1;
+                return x -> x.act(low, law, face) == -1 ? 0 : 1;
             case 8:
-                return x.suspect(any(), any(), low(), low(), 2, 2) ? 1 : 0;
+                return x -> x.suspect(a, b, low, face, 2, 2) ? 1 : 0;
             case 9:
-                return x.amend(low(), low(), any()) ? 1 : 0;
+                return x -> x.amend(law, face, a) ? 1 : 0;
             case 10:
-                return x.count(0) > 0 && random.nextInt(4) == 0 && x.back() != -1 ? 1 : 0;
+                return x -> seldom == 0 && x.back() != -1 ? 1 : 0;
             case 11:
-                return random.nextInt(4) == 0 && x.image() >= 0 ? 1 : 0;
+                return x -> seldom == 0 && x.image() >= 0 ? 1 : 0;
             default:
-                return 0;
+                return x -> 0;
         }
     }
 
@@ -152,20 +162,32 @@ public final class RefusalTest {
         }
     }
 
-    private void run() {
-        DiceLaw x = new DiceLaw();
-        String[] laws = {"ma,na,oa,t1,t0,y", "c0,nb,ob,y,t4,c2", "na,mc,t0,t1,t2,.", "c4,c3,y,ma,ma,oc", "t0,t1,t2,t3,t4,."};
-        for (int i = random.nextInt(6); i > 0; i--) {
-            Due.type(x, laws[random.nextInt(laws.length)]);
-            x.text(0);
-        }
+    private static DiceLaw made(String[] laws, List<Edge.Call> done) {
+        DiceLaw x = Due.with(laws);
         Due.rule(x, "y:l=1&w>1?1;y:d");
-        for (int i = 0; i < 60; i++) {
-            String before = told(x);
+        for (Edge.Call call : done) {
+            call.on(x);
+        }
+        return x;
+    }
+
+    private void run() {
+        String[] some = {"ma,na,oa,t1,t0,y", "c0,nb,ob,y,t4,c2", "na,mc,t0,t1,t2,.", "c4,c3,y,ma,ma,oc",
+            "t0,t1,t2,t3,t4,."};
+        String[] laws = new String[random.nextInt(6)];
+        for (int i = 0; i < laws.length; i++) {
+            laws[i] = some[random.nextInt(some.length)];
+        }
+        List<Edge.Call> done = new ArrayList<>();
+        for (int i = 0; i < 40; i++) {
+            DiceLaw x = made(laws, done);
             asking(x);
-            boolean refused = changing(x) == 0;
-            if (refused) {
-                Due.is("a refused call changes nothing", before.equals(told(x)), true);
+            Edge.Call call = changing();
+            if (call.on(x) != 0) {
+                done.add(call);
+            } else {
+                asking(x);
+                Due.is("a refused call changes nothing", told(x).equals(told(made(laws, done))), true);
             }
         }
     }
