@@ -70,7 +70,8 @@ public final class EdgeAmendTest {
             Edge.is("for another DEED nothing", x.amended(last, 5, 0, 4), 0);
             Edge.is("on a FACE without WEIGHT nothing", x.amended(last, 0, 15, 5), 0);
         }
-        Edge.of("P30", "by how many, of 12 to the power of (LAWS and 3), the ODDS that a DEED is LAWFUL would be more.");
+        Edge.of("P30", "by how many, of 12 to the power of (LAWS and 3), the ODDS that a DEED is LAWFUL would be "
+                + "more.");
         Edge.is("of one LAW a sixth", Due.with("na,.,.,.,.,.").amended(0, 0, 0, 0), 3456);
         Edge.is("of five LAWS a sixth", Due.with("na,.,.,.,.,.", SIX, SIX, SIX, SIX).amended(0, 0, 0, 0), ALL / 6);
         Edge.of("P30", "AMENDED so, apart: by how many (may be below 0).");
@@ -88,9 +89,11 @@ public final class EdgeAmendTest {
         Edge.is("by THROW AGAIN: as it lies in the end", y.amended(0, 0, 40, 0), 20736);
         Edge.is("apart: it has still what it had", y.clause(0, 0), 20);
         y.told(0);
-        Edge.is("what HELD stays: YESTERDAY is MUST NOT", y.amended(0, 0, 60, 0), 0);
+        Edge.of("P30", "AMENDED: one FACE of a LAW has another CLAUSE (what HELD stays)");
+        Edge.is("YESTERDAY is MUST NOT", y.amended(0, 0, 60, 0), 0);
         y.undo();
-        Edge.is("of 12 to the 8 one", thinnest().amended(0, 0, 20, 0), -1);
+        Edge.is("without a DAWN it is nothing", y.amended(0, 0, 60, 0), 20736);
+        Edge.is("of 12 to the 8 one less", thinnest().amended(0, 0, 20, 0), -1);
     }
 
     private static void help() {
@@ -105,8 +108,17 @@ public final class EdgeAmendTest {
         thin.weigh(0, 12, 0, 0, 0, 0, 0);
         Edge.is("in the last LAW but one", thin.help(0, 1), 11 * 1728 * 12);
         Edge.is("the heaviest FACE", thin.help(0, 0), 1100);
-        Edge.of("P31", "the one amendment by which that is most (of several the lowest LAW, then FACE, then CLAUSE, in that "
-                + "order).");
+        Edge.of("P31", "of all FACES of all LAWS and CLAUSES . m n o with it");
+        for (int deed = 0; deed < 6; deed++) {
+            char sign = (char) ('a' + deed);
+            DiceLaw m = Due.with(all("n" + sign), all("m" + sign), ".,.,.,.,.,m" + sign, SIX);
+            Edge.is("m with " + sign, m.help(deed, 0), 2010 + deed);
+            Edge.is("none with " + sign + " for another DEED", m.help((deed + 1) % 6, 1), 0);
+            weighOn(m, 3, 4);
+            Edge.is("m with " + sign + " on the heaviest FACE", m.help(deed, 0), 3410 + deed);
+        }
+        Edge.of("P31", "the one amendment by which that is most (of several the lowest LAW, then FACE, then CLAUSE, "
+                + "in that order).");
         Edge.is("the lowest FACE", Due.with(all("na")).help(0, 0), 0);
         Edge.is("the lowest LAW", Due.with(".,na,na,.,.,.", SIX).help(0, 0), 100);
         Edge.is("not the first where a later one is better", Due.with(".,.,.,.,na,.").help(0, 0), 400);
@@ -149,7 +161,8 @@ public final class EdgeAmendTest {
             Edge.of("P33", "GIVEN.");
             Edge.fraction("FACE " + cell, x.given(law, face, deed, 0), x.given(law, face, deed, 1), 0, 1);
             int next = (cell + 6) % 30;
-            Edge.fraction("given FACE " + next, x.given(next / 6, face, deed, 0), x.given(next / 6, face, deed, 1), 5, 12);
+            Edge.fraction("given FACE " + next, x.given(next / 6, face, deed, 0), x.given(next / 6, face, deed, 1),
+                    5, 12);
             int beside = (face + 1) % 6;
             Edge.fraction("beside FACE " + cell, x.given(law, beside, deed, 0), x.given(law, beside, deed, 1), 1, 1);
             Edge.of("P30", "AMENDED so, apart: by how many (may be below 0).");
@@ -200,8 +213,8 @@ public final class EdgeAmendTest {
         DiceLaw plain = Due.with("na,.,.,.,.,.", SIX);
         Edge.fraction("the first FACE", plain.given(0, 0, 0, 0), plain.given(0, 0, 0, 1), 0, 1);
         Edge.fraction("the last of all FACES", plain.given(1, 5, 0, 0), plain.given(1, 5, 0, 1), 5, 6);
-        Edge.of("P33", "the ODDS that a DEED is LAWFUL tomorrow among all ways in which the DIE of a LAW lies on a FACE in the "
-                + "end.");
+        Edge.of("P33", "the ODDS that a DEED is LAWFUL tomorrow among all ways in which the DIE of a LAW lies on a "
+                + "FACE in the end.");
         DiceLaw x = thinnest();
         Edge.fraction("four times on t0", x.given(0, 0, 0, 0), x.given(0, 0, 0, 1), 1, 20736);
         Edge.fraction("the last DIE on its first FACE", x.given(4, 0, 0, 0), x.given(4, 0, 0, 1), 1, ALL / 12);
@@ -223,8 +236,8 @@ public final class EdgeAmendTest {
         Edge.of("P34", "HARM: 6 times the LAW and the FACE.");
         Edge.is("the last of all", Due.with(SIX, SIX, SIX, SIX, ".,.,.,.,.,na").harm(0), 29);
         Edge.is("the first of all", Due.with("na,.,.,.,.,.", SIX, SIX, SIX, SIX).harm(0), 0);
-        Edge.of("P34", "the DIE and FACE (that can lie so in the end) by which that is least (of several the lowest LAW, then "
-                + "FACE).");
+        Edge.of("P34", "the DIE and FACE (that can lie so in the end) by which that is least (of several the lowest "
+                + "LAW, then FACE).");
         Edge.is("all alike", Due.with(SIX, SIX).harm(5), 0);
         Edge.is("all alike, the last FACE alone can lie so", allOn(5, SIX, SIX).harm(5), 5);
         DiceLaw late = Due.with("ma,na,c0,c1,c2,t0", SIX, SIX, SIX, SIX);
@@ -263,6 +276,12 @@ public final class EdgeAmendTest {
         Edge.is("always", last.likeliest(1), ALL);
         Edge.is("the second FACES", thinnest().likeliest(0), 1555);
         Edge.is("almost as often as can be", thinnest().likeliest(1), 20735L * 14641);
+        Edge.of("P35", "LIKELIEST: the FACES as digits in which dice lie in the end");
+        DiceLaw first = Due.with(SIX, SIX, SIX);
+        weighOn(first, 0, 5);
+        Edge.is("the last FACE of the first LAW", first.likeliest(0), 180);
+        weighOn(first, 2, 4);
+        Edge.is("and one of the last LAW", first.likeliest(0), 184);
         Edge.of("P35", "in most ways (of several the least); how many ways.");
         DiceLaw two = Due.with(SIX, SIX);
         two.weigh(0, 0, 0, 4, 4, 4, 0);
@@ -330,8 +349,8 @@ public final class EdgeAmendTest {
     private static void change() {
         Edge.of("P38", "CHANGE.");
         Edge.is("the last LAW, FACES and DEED", Due.with(SIX, ".,.,.,.,.,nf").change(1, 5, 4, 5), 20736);
-        Edge.of("P38", "CHANGE of a LAW's DIE by one: a WEIGHT less on one FACE and more on another one: by how many ways the "
-                + "ODDS that a DEED is LAWFUL would be more.");
+        Edge.of("P38", "CHANGE of a LAW's DIE by one: a WEIGHT less on one FACE and more on another one: by how many "
+                + "ways the ODDS that a DEED is LAWFUL would be more.");
         Edge.is("from 1 to 0", weighed(1, 0).change(0, 0, 1, 0), 1728);
         Edge.is("from 12 to 11", weighed(12, 0).change(0, 0, 1, 0), 1728);
         Edge.is("from 11 to 12", weighed(11, 1).change(0, 1, 0, 0), -1728);

@@ -66,6 +66,24 @@ public final class EdgeDawnTest {
         }
     }
 
+    private static void withoutSign() {
+        Edge.of("P10", "then (x shifted right by 33, without sign) modulo 12 is v");
+        int found = 0;
+        for (long seed = 0; found < 24; seed++) {
+            long x = seed * FACTOR + MORE;
+            // a sign, or 32 places, or 34, would make another FACE of it
+            boolean tells = x < 0 && Math.floorMod(x >> 33, 12L) / 2 != new Draws(seed).next() / 2
+                    && (x >>> 32) % 12 / 2 != (x >>> 33) % 12 / 2 && (x >>> 34) % 12 / 2 != (x >>> 33) % 12 / 2;
+            if (tells) {
+                DiceLaw y = Due.with(SIX);
+                y.seed(seed);
+                y.dawn();
+                Edge.is("seed " + seed, y.day(0, 0), new Draws(seed).next() / 2);
+                found++;
+            }
+        }
+    }
+
     private static void facesByWeights() {
         Edge.of("P10", "the lowest FACE for which all WEIGHTS up to it are together more than v");
         int[] due = {0, 1, 1, 2, 2, 2, 4, 4, 4, 4, 5, 5};
@@ -360,8 +378,10 @@ public final class EdgeDawnTest {
         heldBy(0, "c1", "c2", "c3", "c4", "c4");
         heldBy(0, "c1", "c2", "c3", "c4");
         heldBy(0, "c1", "c2", "c3", "c4", "y");
-        Edge.is("the last LAW's of the first one", toldOnce(0, "ob,.,.,.,.,.", SIX, SIX, SIX, "c0,.,.,.,.,.").held(4, 0), 31);
-        Edge.is("of one that is a COPY itself", toldOnce(0, "c2,.,.,.,.,.", "c0,.,.,.,.,.", "ob,.,.,.,.,.").held(1, 0), 31);
+        DiceLaw far = toldOnce(0, "ob,.,.,.,.,.", SIX, SIX, SIX, "c0,.,.,.,.,.");
+        Edge.is("the last LAW's of the first one", far.held(4, 0), 31);
+        DiceLaw twice = toldOnce(0, "c2,.,.,.,.,.", "c0,.,.,.,.,.", "ob,.,.,.,.,.");
+        Edge.is("of one that is a COPY itself", twice.held(1, 0), 31);
         Edge.of("P14", "t is nothing");
         heldBy(0, "t0");
         heldBy(0, "t4");
@@ -463,8 +483,8 @@ public final class EdgeDawnTest {
         Edge.is(what, x.deed(0, 0, 2), allowed);
         Edge.is(what, x.deed(0, 0, 3), forbidden);
         Edge.is(what, x.deed(0, 0, 4), due);
-        Edge.of("P15", "A DEED is ALLOWED by so many LAWS of which m HOLDS with it, FORBIDDEN by so many with n, DUE by so "
-                + "many with o.");
+        Edge.of("P15", "A DEED is ALLOWED by so many LAWS of which m HOLDS with it, FORBIDDEN by so many with n, DUE "
+                + "by so many with o.");
         Edge.is("of another DEED nothing is told", x.deed(5, 0, 0) * 10 + x.deed(5, 0, 1), 10);
         Edge.is("by none", x.deed(1, 0, 2) + x.deed(1, 0, 3) + x.deed(1, 0, 4), 0);
     }
@@ -510,6 +530,7 @@ public final class EdgeDawnTest {
 
     public static void main(String[] args) {
         seeds();
+        withoutSign();
         facesByWeights();
         drawn();
         thrownAgain();

@@ -59,7 +59,8 @@ public final class EdgeImageTest {
     }
 
     private static void back() {
-        Edge.of("P44", "An IMAGE keeps the DIARY, DEEDS, draws, LAWS and WEIGHTS as they are; BACK: they are so again.");
+        Edge.of("P44", "An IMAGE keeps the DIARY, DEEDS, draws, LAWS and WEIGHTS as they are; BACK: they are so "
+                + "again.");
         Supplier<DiceLaw> busy = States.BUSY;
         again("a DAWN", busy, DiceLaw::dawn);
         again("a DAWN as told", busy, x -> x.told(7));
@@ -132,7 +133,8 @@ public final class EdgeImageTest {
 
     /** Fewer LAWS are BACK than there were, and the days are theirs again. */
     private static void fewerLaws() {
-        Edge.of("P44", "An IMAGE keeps the DIARY, DEEDS, draws, LAWS and WEIGHTS as they are; BACK: they are so again.");
+        Edge.of("P44", "An IMAGE keeps the DIARY, DEEDS, draws, LAWS and WEIGHTS as they are; BACK: they are so "
+                + "again.");
         DiceLaw x = days(2);
         x.image();
         x.undo();

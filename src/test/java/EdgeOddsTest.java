@@ -46,7 +46,8 @@ public final class EdgeOddsTest {
             }
             Edge.fraction(weight + " of 12", y.odds(0, 2, 0), y.odds(0, 2, 1), above, below);
         }
-        Edge.of("P16", "of a DEED: 0 that it is LAWFUL, 1 that it MUST be done, 2 that it is FORBIDDEN by one at least");
+        Edge.of("P16", "of a DEED: 0 that it is LAWFUL, 1 that it MUST be done, 2 that it is FORBIDDEN by one at "
+                + "least");
         DiceLaw two = Due.with("na,ma,na,na,na,na", "na,ma,oa,.,.,.", "ma,ma,ma,ma,ma,ma");
         two.weigh(0, 12, 0, 0, 0, 0, 0);
         two.weigh(1, 12, 0, 0, 0, 0, 0);
@@ -252,6 +253,14 @@ public final class EdgeOddsTest {
         waits("SURE", chance(12), 1000000000, 1000000000, 1000000000, 1000000000);
         waits("NEVER", chance(0), 0, 0, 0, 0);
         waits("the least there is", thinnest(), 2, 4, 6, 120);
+        Edge.of("P22", "the first on which it is LAWFUL (each as likely as tomorrow's ODDS)");
+        DiceLaw today = Due.with("y,.,.,.,.,na");
+        today.weigh(0, 6, 5, 0, 0, 0, 1);
+        today.told(5);
+        Edge.is("by YESTERDAY, which is TODAY", today.waits(0, 1), 416666666);
+        Edge.is("as likely on the second day", today.waits(0, 2), 416666666 + 243055555);
+        today.undo();
+        Edge.is("without a DAWN", today.waits(0, 1), 916666666);
         Edge.of("P22", "somebody may do a DEED on one of so many days (1 .. 60) from tomorrow");
         Edge.is("on the first", chance(12).waits(0, 1), 1000000000);
         Edge.refused("on none", () -> chance(6), -1, x -> x.waits(0, 0));
@@ -272,8 +281,8 @@ public final class EdgeOddsTest {
         Edge.of("P23", "VALUE.");
         Edge.is("the least of all numbers", chance(6).value(0, 1, 0, 0), 0);
         Edge.is("the most of all numbers", chance(12).value(5, 60, 999, 99), 999000);
-        Edge.of("P23", "the sum over days of those parts times (GAIN less COST times days ahead of it), and of what is left "
-                + "then times (0 less COST times all days), by 10 to the 6, cut towards 0.");
+        Edge.of("P23", "the sum over days of those parts times (GAIN less COST times days ahead of it), and of what "
+                + "is left then times (0 less COST times all days), by 10 to the 6, cut towards 0.");
         values("a sixth", chance(2), 1, 83999, -82500, 166499, 166, -833, 0, 0);
         values("a sixth", chance(2), 2, 153999, -151250, 305249, 305, -1527, 0, 0);
         values("a sixth", chance(2), 60, 503991, -494991, 998982, 999, -4999, 0, 0);
@@ -291,7 +300,8 @@ public final class EdgeOddsTest {
         Edge.is("the least of both", chance(12).value(0, 1, 0, 0), 0);
         int[][] wrong = {{-1, 0}, {1000, 0}, {0, -1}, {0, 100}};
         for (int[] w : wrong) {
-            Edge.refused("GAIN " + w[0] + ", COST " + w[1], () -> chance(6), DiceLaw.HIDDEN, x -> x.value(0, 1, w[0], w[1]));
+            Edge.refused("GAIN " + w[0] + ", COST " + w[1], () -> chance(6), DiceLaw.HIDDEN,
+                    x -> x.value(0, 1, w[0], w[1]));
         }
     }
 

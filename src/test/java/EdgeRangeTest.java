@@ -79,7 +79,8 @@ public final class EdgeRangeTest {
     /** 12 on one FACE is taken; 13 there is not, nor is it less than 0, nor are 11 or 13 together. */
     private static int[][] wrongOn(int face) {
         return new int[][] {sixWith(face, 13, -1), sixWith(face, -1, 13), sixWith(face, 11, 0), sixWith(face, 12, 1),
-            sixWith(face, 13, 0), sixWith(face, -1, 12), minusOne(face), sixWith(face, Integer.MAX_VALUE, -Integer.MAX_VALUE + 12),
+            sixWith(face, 13, 0), sixWith(face, -1, 12), minusOne(face),
+            sixWith(face, Integer.MAX_VALUE, -Integer.MAX_VALUE + 12),
             sixWith(face, Integer.MIN_VALUE, Integer.MIN_VALUE + 12)};
     }
 

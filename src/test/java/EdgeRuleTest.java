@@ -43,8 +43,8 @@ public final class EdgeRuleTest {
     }
 
     private static void conditions() {
-        Edge.of("P4", "CONDITION: TRUTHS with | between; TRUTH: UNITS with & between; UNIT: ! UNIT, ( CONDITION ), or SUM, "
-                + "one of = < >, SUM.");
+        Edge.of("P4", "CONDITION: TRUTHS with | between; TRUTH: UNITS with & between; UNIT: ! UNIT, ( CONDITION ), "
+                + "or SUM, one of = < >, SUM.");
         fault("y:1=1|2=2?1", -1);
         fault("y:1=1|?1", 6);
         fault("y:1=1||2=2?1", 6);
@@ -64,8 +64,8 @@ public final class EdgeRuleTest {
         fault("y:(1=1", 6);
         fault("y:1=1)?1", 5);
         fault("y:(1=1]?1", 6);
-        Edge.of("P4", "SUM: TERMS with + or - between; TERM: ATOMS with * or / between; ATOM: a number (1 to 4 digits), a "
-                + "letter (l d m n w t), [ SUM ].");
+        Edge.of("P4", "SUM: TERMS with + or - between; TERM: ATOMS with * or / between; ATOM: a number (1 to 4 "
+                + "digits), a letter (l d m n w t), [ SUM ].");
         fault("y:1+2-3*4/5", -1);
         fault("y:+1", 2);
         fault("y:-1", 2);
@@ -120,8 +120,9 @@ public final class EdgeRuleTest {
     private static void follows(String text, String signs, String complete) {
         for (int b = 1; b < 256; b++) {
             boolean good = b == ' ' || signs.indexOf(b) >= 0;
-            int want = good ? text.length() + 1 : text.length();
-            Edge.is("byte " + b + " behind " + text, Due.fault(1, text + (char) b), complete.indexOf(b) >= 0 ? -1 : want);
+            int length = text.length();
+            int want = complete.indexOf(b) >= 0 ? -1 : good ? length + 1 : length;
+            Edge.is("byte " + b + " behind " + text, Due.fault(1, text + (char) b), want);
         }
     }
 

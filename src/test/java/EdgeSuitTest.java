@@ -34,6 +34,11 @@ public final class EdgeSuitTest {
         }
         Edge.is("on the first of 40 days", days(40, 0, SIX).act(0, 0, 0), 1);
         Edge.is("on the last of 40 days", days(40, 0, SIX).act(5, 5, 39), 1);
+        Edge.of("P24", "PERSONS 0 .. 5 do DEEDS on days");
+        Edge.is("the first PERSON", acted(0).act(0, 5, 1), 1);
+        Edge.is("the last PERSON", acted(0).act(5, 0, 1), 1);
+        Edge.refused("none ahead of the first", () -> acted(1), -1, x -> x.act(-1, 0, 0));
+        Edge.refused("none behind the last", () -> acted(1), -1, x -> x.act(6, 0, 0));
         Edge.of("P24", "(places in the DIARY): each once at most a day; 60 at most.");
         for (int person = 0; person < 6; person++) {
             for (int deed = 0; deed < 6; deed++) {
@@ -84,8 +89,8 @@ public final class EdgeSuitTest {
         Edge.is("none of the second day", undone.suit(0, 5), -1);
         undone.undo();
         Edge.is("none when all days are undone", undone.suit(0, -1), 0);
-        Edge.of("P25", "BREACHES, by days, then DEEDS (how many; the i-th: 12 times the day and 2 times the DEED and 0 for "
-                + "one it did, 1 for one it left).");
+        Edge.of("P25", "BREACHES, by days, then DEEDS (how many; the i-th: 12 times the day and 2 times the DEED and "
+                + "0 for one it did, 1 for one it left).");
         DiceLaw y = told(Due.with("na,.,.,.,.,of", "nf,.,.,.,.,oa"), 0, 35, 7);
         y.act(2, 5, 0);
         y.act(2, 0, 0);
@@ -109,7 +114,7 @@ public final class EdgeSuitTest {
             z.act(0, 0, day);
         }
         Edge.is("three", z.suit(0, -1), 3);
-        Edge.is("not where it was ALLOWED by more than FORBIDDEN, but where it was FORBIDDEN and DUE", z.suit(0, 0), 12);
+        Edge.is("none where it was ALLOWED by more, but where it was FORBIDDEN and DUE", z.suit(0, 0), 12);
         Edge.is("where it was FORBIDDEN and DUE by one", z.suit(0, 1), 24);
         Edge.is("one it left, but none that was DUE and not LAWFUL", z.suit(0, 2), 37);
     }
@@ -149,6 +154,13 @@ public final class EdgeSuitTest {
             Edge.is("no 3 on FACE " + face, x.named(0, 2, 2), 0);
         }
         Edge.is("without LAWS, too", new DiceLaw().suspect(0, 0, 0, 0, 0, 12), true);
+        Edge.of("P26", "a DIE with WEIGHTS that are asked (12 together) against even ones");
+        Edge.is("12 together", new DiceLaw().suspect(1, 2, 3, 4, 2, 0), true);
+        Edge.refused("11 together", () -> acted(1), 0, x -> x.suspect(1, 2, 3, 4, 1, 0) ? 1 : 0);
+        Edge.refused("13 together", () -> acted(1), 0, x -> x.suspect(1, 2, 3, 4, 2, 1) ? 1 : 0);
+        DiceLaw uneven = named(1, 4, 4, 1, 1, 1, 1);
+        uneven.weigh(0, 4, 4, 1, 1, 1, 1);
+        Edge.is("against 2 each, whatever the DIE has", uneven.named(0, 1, 2), 1);
         Edge.of("P27", "NAMED by them (1, 0).");
         int power = 1;
         for (int dawns = 1; dawns <= 15; dawns++) {
@@ -168,7 +180,8 @@ public final class EdgeSuitTest {
         never.told(6);
         Edge.is("by the latest alone", never.named(0, 1, 6), 1);
         Edge.is("the latest two", never.named(0, 2, 1), 0);
-        Edge.of("P27", "it is NAMED, if the product of those WEIGHTS is at least DOUBT (1 .. 1,000) times that of 2 each.");
+        Edge.of("P27", "it is NAMED, if the product of those WEIGHTS is at least DOUBT (1 .. 1,000) times that of 2 "
+                + "each.");
         Edge.is("as much: 3 of 2", told(named(1, 3, 9, 0, 0, 0, 0), 0).named(0, 2, 2), 1);
         Edge.is("9 of 8 is not 2 times", told(named(2, 3, 9, 0, 0, 0, 0), 0).named(0, 3, 3), 1);
         Edge.is("27 of 8", told(named(2, 3, 9, 0, 0, 0, 0), 0).named(0, 3, 4), 0);
@@ -222,8 +235,8 @@ public final class EdgeSuitTest {
         DiceLaw always = days(40, 0, LAW);
         Edge.is("on all of 40 days", always.run(0, 0), 40);
         Edge.is("from the first", always.run(0, 1), 0);
-        Edge.of("P39", "the longest row of days one behind the other on which it was LAWFUL; its first day (of several the "
-                + "first).");
+        Edge.of("P39", "the longest row of days one behind the other on which it was LAWFUL; its first day (of "
+                + "several the first).");
         DiceLaw rows = told(Due.with(LAW), 1, 0, 0, 1, 0, 0, 1, 0);
         Edge.is("two", rows.run(0, 0), 2);
         Edge.is("of several the first", rows.run(0, 1), 1);

@@ -45,8 +45,8 @@ public final class EdgeTextTest {
     }
 
     private static void bytes() {
-        Edge.of("P2", "Twenty bytes more come to the TAPE (of each number the highest first; bytes of 0 are left out): "
-                + "how many it has.");
+        Edge.of("P2", "Twenty bytes more come to the TAPE (of each number the highest first; bytes of 0 are left "
+                + "out): how many it has.");
         DiceLaw x = new DiceLaw();
         Edge.is("twenty", x.feed(0x6D612C6E, 0x622C6F63, 0x2C74332C, 0x63342C79, 0x20202020), 20);
         Edge.is("they are a LAW", x.text(0), 0);
@@ -99,9 +99,10 @@ public final class EdgeTextTest {
             Edge.is("bit " + a + " of a number behind 119", filled(119).feed(0, 1 << a, 0, 0, 0), 120);
             for (int b = 0; b < 32; b++) {
                 int two = 1 << a | 1 << b;
-                int bytes = a / 8 == b / 8 ? 1 : 2;
-                Edge.is("bits " + a + " and " + b + " behind 119", filled(119).feed(two, 0, 0, 0, 0), bytes == 1 ? 120 : -1);
-                Edge.is("bits " + a + " and " + b + " behind 118", filled(118).feed(0, 0, 0, 0, two), 118 + bytes);
+                boolean one = a / 8 == b / 8;
+                String bits = "bits " + a + " and " + b;
+                Edge.is(bits + " behind 119", filled(119).feed(two, 0, 0, 0, 0), one ? 120 : -1);
+                Edge.is(bits + " behind 118", filled(118).feed(0, 0, 0, 0, two), one ? 119 : 120);
             }
         }
     }
@@ -212,6 +213,12 @@ public final class EdgeTextTest {
             Edge.is("THROW AGAIN " + face, x.clause(3, face), face < 5 ? 40 + face : 0);
             Edge.is("COPY " + face, x.clause(4, face), face < 5 ? 50 + face : 60);
         }
+        Edge.of("P6", "FACES 0 .. 5 (its CLAUSES in order)");
+        DiceLaw order = Due.with("ma,.,.,.,.,of");
+        Edge.is("the first CLAUSE on FACE 0", order.clause(0, 0), 10);
+        Edge.is("the last CLAUSE on FACE 5", order.clause(0, 5), 35);
+        Edge.is("no FACE ahead of the first", Edge.clause(order, 0, -1), Edge.THROWS);
+        Edge.is("no FACE behind the last", Edge.clause(order, 0, 6), Edge.THROWS);
         Edge.of("P6", "a DEED a .. f, t (THROW AGAIN), c (COPY) and a LAW 0 .. 4");
         DiceLaw y = Due.with("ma,nf,t0,t4,c0,c4");
         int[] ends = {10, 25, 40, 44, 50, 54};

@@ -2,6 +2,7 @@ import java.io.IOException;
 import java.nio.file.Files;
 import java.nio.file.Path;
 import java.util.ArrayList;
+import java.util.Arrays;
 import java.util.List;
 import java.util.regex.Matcher;
 import java.util.regex.Pattern;
@@ -9,7 +10,8 @@ import java.util.stream.Stream;
 
 /**
  * Whether the tests of edges leave out a sentence: what they name stands in the document, under that promise or among
- * the Terms; each sentence of each promise is named whole, each sentence of the Terms at least in part.
+ * the Terms; each sentence of each promise is named whole, each sentence of the Terms at least in part, and with that
+ * part its words that tell an edge.
  */
 public final class SentenceTest {
     private static final String TEXT = "\"((?:[^\"\\\\]|\\\\.)*)\"";
@@ -64,6 +66,25 @@ public final class SentenceTest {
         return text.substring(text.indexOf("`: ") + 3);
     }
 
+    /** Words by which a sentence tells an edge: wherever they stand among the Terms, a named one goes over them. */
+    private static void edges(String terms, List<Named> named) {
+        boolean[] over = new boolean[terms.length()];
+        for (Named n : named) {
+            for (int at = terms.indexOf(n.words); at >= 0; at = terms.indexOf(n.words, at + 1)) {
+                Arrays.fill(over, at, at + n.words.length(), true);
+            }
+        }
+        Matcher edge = Pattern.compile("\\w [.][.] -?\\w|at most|at least|at first|together|going round|goes round"
+                + "|without|never|if it ends|no such|seventh|fifth|at once|of several|cut|lowest|above 0|none")
+                .matcher(terms);
+        while (edge.find()) {
+            int near = Math.max(0, edge.start() - 30);
+            String place = terms.substring(near, Math.min(terms.length(), edge.end() + 30));
+            boolean is = over[edge.start()] && over[edge.end() - 1];
+            Due.is("'" + edge.group() + "' in '" + place + "' is named by a test of edges", is, true);
+        }
+    }
+
     public static void main(String[] args) throws IOException {
         String doc = Files.readString(Path.of("../shared/DOC.md"));
         String terms = under(doc, "What it is") + " " + under(doc, "Terms");
@@ -84,6 +105,7 @@ public final class SentenceTest {
             boolean is = named.stream().anyMatch(n -> sentence.contains(n.words));
             Due.is("'" + sentence + "' of the Terms is named by a test of edges", is, true);
         }
+        edges(terms, named);
         Due.close("SentenceTest");
     }
 }

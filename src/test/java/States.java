@@ -42,7 +42,8 @@ final class States {
     }
 
     private static DiceLaw full() {
-        DiceLaw x = Due.with("ma,na,oa,.,mb,y", "na,ob,ma,t0,.,mb", "oc,nc,mc,.,y,t4", ".,.,na,nb,ma,c0", "mb,.,.,of,od,nf");
+        DiceLaw x = Due.with("ma,na,oa,.,mb,y", "na,ob,ma,t0,.,mb", "oc,nc,mc,.,y,t4", ".,.,na,nb,ma,c0",
+                "mb,.,.,of,od,nf");
         for (int law = 0; law < 5; law++) {
             x.weigh(law, 1, 2, 3, 1, 2, 3);
         }
