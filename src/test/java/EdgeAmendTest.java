@@ -1,3 +1,5 @@
+import java.util.Arrays;
+
 /** Edges of amendments, of HELP, of what tomorrow is GIVEN one FACE, of changed WEIGHTS: P29 to P31, P33 to P38. */
 public final class EdgeAmendTest {
     private static final String SIX = ".,.,.,.,.,.";
@@ -58,7 +60,7 @@ public final class EdgeAmendTest {
         long most = 1728;
         String[] laws = {};
         for (int many = 1; many <= 5; many++) {
-            laws = java.util.Arrays.copyOf(laws, many);
+            laws = Arrays.copyOf(laws, many);
             laws[many - 1] = SIX;
             most *= 12;
             DiceLaw x = allOn(5, laws);

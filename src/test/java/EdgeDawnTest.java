@@ -1,4 +1,5 @@
 import java.math.BigInteger;
+import java.util.Arrays;
 
 /** Edges of draws, of DAWNS by draws and as told, of what HELD and what was LAWFUL: P9 to P15. */
 public final class EdgeDawnTest {
@@ -220,7 +221,7 @@ public final class EdgeDawnTest {
             Edge.is("the last of " + many + " LAWS", Due.with(all).told(six - 1), 1);
             Edge.is("it lies so", toldOnce(six - 1, all).day(0, 0), six - 1);
             Edge.refused("above the last of " + many, () -> Due.with(all), -1, y -> y.told(above));
-            laws = java.util.Arrays.copyOf(laws, many + 1);
+            laws = Arrays.copyOf(laws, many + 1);
             laws[many] = SIX;
         }
         Edge.of("P11", "NONE: no such FACES, no LAWS, there are 40.");

@@ -1,3 +1,4 @@
+import java.util.Arrays;
 import java.util.function.Supplier;
 
 /**
@@ -95,7 +96,7 @@ public final class EdgeRangeTest {
         }
         for (int[] w : wrongOn(face)) {
             int[] v = {1, w[0], w[1], w[2], w[3], w[4], w[5]};
-            Edge.refused("weigh " + java.util.Arrays.toString(v), BUSY, 0, x -> weigh(x, v));
+            Edge.refused("weigh " + Arrays.toString(v), BUSY, 0, x -> weigh(x, v));
         }
     }
 
@@ -109,7 +110,7 @@ public final class EdgeRangeTest {
             Edge.is("no more on FACE " + face, x.named(0, 1, w[face] / 2 + 1), 0);
         }
         for (int[] w : wrongOn(face)) {
-            Edge.refused("suspect " + java.util.Arrays.toString(w), BUSY, 0, x -> suspect(x, w));
+            Edge.refused("suspect " + Arrays.toString(w), BUSY, 0, x -> suspect(x, w));
         }
         Edge.refused("suspect", States.FRESH, 0, x -> suspect(x, sixWith(face, 13, -1)));
     }
