@@ -243,15 +243,23 @@ public final class EdgeAmendTest {
         Edge.is("all alike", Due.with(SIX, SIX).harm(5), 0);
         Edge.is("all alike, the last FACE alone can lie so", allOn(5, SIX, SIX).harm(5), 5);
         DiceLaw late = Due.with("ma,na,c0,c1,c2,t0", SIX, SIX, SIX, SIX);
-        late.weigh(0, 2, 0, 2, 2, 2, 4);
         for (int law = 1; law < 5; law++) {
             weighOn(late, law, 5);
-            Edge.is("no WEIGHT on LAW " + law, late.given(law, 0, 0, 0), -1);
-            Edge.is("all on the last FACE of LAW " + law, late.given(law, 5, 0, 0), 1);
+            for (int face = 0; face < 5; face++) {
+                Edge.is("no WEIGHT on FACE " + face + " of LAW " + law, late.given(law, face, 0, 0), -1);
+            }
+            Edge.is("all on the last FACE of LAW " + law, late.given(law, 5, 5, 0), 1);
         }
+        Edge.is("never LAWFUL there", late.harm(0), 1);
+        late.weigh(0, 2, 0, 2, 2, 2, 4);
         Edge.is("no WEIGHT on the first FACES of later LAWS", late.harm(0), 0);
         late.weigh(0, 0, 12, 0, 0, 0, 0);
         Edge.is("never LAWFUL: the lowest FACE that it can lie on", late.harm(0), 1);
+        DiceLaw once = Due.with("t0,.,.,.,.,.");
+        once.weigh(0, 1, 11, 0, 0, 0, 0);
+        Edge.is("it can lie so in one way of 12 to the 4", once.harm(0), 0);
+        once.weigh(0, 0, 12, 0, 0, 0, 0);
+        Edge.is("it can not", once.harm(0), 1);
         DiceLaw never = Due.with("na,na,na,.,.,.", SIX);
         never.weigh(0, 0, 0, 1, 5, 5, 1);
         Edge.is("two of them have no WEIGHT", never.harm(0), 2);

@@ -154,6 +154,20 @@ public final class EdgeImageTest {
         Edge.is("PEACE", x.peace(0), 1);
         Edge.is("another DAWN", x.told(5), 3);
         Edge.is("above its FACES", x.told(6), -1);
+        DiceLaw y = Due.with("c1,c1,c1,t1,t1,t1");
+        y.image();
+        Due.type(y, "na,na,na,na,na,na");
+        y.text(0);
+        y.told(0);
+        Edge.is("a COPY of LAW 1", y.held(0, 0), 20);
+        Edge.fraction("FORBIDDEN tomorrow", y.odds(0, 2, 0), y.odds(0, 2, 1), 1, 1);
+        y.back();
+        y.told(0);
+        Edge.is("a COPY of a LAW that there was", y.held(0, 0), 0);
+        Edge.fraction("FORBIDDEN never", y.odds(0, 2, 0), y.odds(0, 2, 1), 0, 1);
+        y.dawn();
+        Edge.is("THROW AGAIN of a LAW that there was", y.day(1, 1), 0);
+        Edge.fraction("none tomorrow", y.again(0, 0), y.again(0, 1), 1, 1);
     }
 
     /** An IMAGE of a new object, taken BACK when there were a LAW and DAWNS. */
