@@ -48,8 +48,8 @@ public final class DiceLaw {
     private final int[] asked = {2, 2, 2, 2, 2, 2};
     private final int[] wanted = new int[FACES];
     private final Dice dice = new Dice();
-    private final Tomorrow tomorrow = new Tomorrow();
-    private final Chances chances = new Chances(tomorrow);
+    private final Chances chances = new Chances();
+    private final Tomorrow tomorrow = chances.tomorrow;
 
     public DiceLaw() {
         for (int i = 0; i < rules.length; i++) {
@@ -365,12 +365,12 @@ public final class DiceLaw {
 
     private void throwTomorrow() {
         tomorrow.load(book, diary);
-        tomorrow.toss();
+        tomorrow.toss(false);
     }
 
     private long chance(int sort, int one, int other) {
         tomorrow.load(book, diary);
-        tomorrow.toss();
+        tomorrow.toss(sort == ASK_FACES || sort == ASK_GIVEN);
         return chances.ask(sort, one, other);
     }
 
@@ -456,7 +456,7 @@ public final class DiceLaw {
         }
         long before = chance(ASK_LAWFUL, deed, deed);
         tomorrow.alter(law, face, clause);
-        tomorrow.toss();
+        tomorrow.toss(false);
         return chances.ask(ASK_LAWFUL, deed, deed) - before;
     }
 
@@ -469,7 +469,7 @@ public final class DiceLaw {
         }
         long before = chance(ASK_LAWFUL, deed, deed);
         tomorrow.shift(law, from, to);
-        tomorrow.toss();
+        tomorrow.toss(false);
         return chances.ask(ASK_LAWFUL, deed, deed) - before;
     }
 
@@ -484,21 +484,19 @@ public final class DiceLaw {
             int law = cell / FACES;
             int face = cell % FACES;
             // n and o are left out: neither can do better than the . that comes first on the same FACE
-            long nothing = lawfulWith(law, face, 0, deed);
-            long may = lawfulWith(law, face, MAY + deed, deed);
+            tomorrow.load(book, diary);
+            tomorrow.alter(law, face, 0);
+            tomorrow.toss(false);
+            long nothing = chances.ask(ASK_LAWFUL, deed, deed);
+            // m has no more DICE thrown again than . has: the ways stay as they are
+            tomorrow.alter(law, face, MAY + deed);
+            long may = chances.ask(ASK_LAWFUL, deed, deed);
             if (best == NONE || nothing > most || may > most) {
                 most = Math.max(nothing, may);
                 best = 1000 * law + 100 * face + (nothing == most ? 0 : MAY + deed);
             }
         }
         return what == 0 ? best : most - before;
-    }
-
-    private long lawfulWith(int law, int face, int clause, int deed) {
-        tomorrow.load(book, diary);
-        tomorrow.alter(law, face, clause);
-        tomorrow.toss();
-        return chances.ask(ASK_LAWFUL, deed, deed);
     }
 
     // ---- rules
@@ -1355,19 +1353,24 @@ public final class DiceLaw {
     }
 
     /**
-     * The ways in which tomorrow's DICE can fall. FACES that have the same DIE thrown again, or none, are one type:
-     * which of them it is in the end does not bear on the other DICE.
+     * The ways in which tomorrow's DICE can fall. A DIE is looked at only when it may have one thrown again: until then
+     * all that it can show counts together. FACES that have the same DIE thrown again, or none, are one type.
      */
     private static final class Tomorrow {
+        private static final int UNSEEN = -1;
+
         private int laws;
         private final int[] clauses = new int[LAWS * FACES];
         private final int[] weights = new int[LAWS * FACES];
         private final int[] yesterday = new int[LAWS];
+        private boolean fine;
         private final Kinds types = new Kinds();
-        private final int[] typeOf = new int[LAWS * FACES];
+        /** Types that need not be told apart in the end, taken together. */
+        private final Kinds lots = new Kinds();
+        private final int[] lotOfType = new int[LAWS * FACES];
+        private final int[] lotOfFace = new int[LAWS * FACES];
         private final int[] steps = new int[LAWS];
         private final int[] lies = new int[LAWS];
-        private final int[] aims = new int[LAWS];
         private final long[] ends = new long[ALL_FACES];
         private final long[] byThrown = new long[THROWS_AGAIN + 1];
 
@@ -1401,90 +1404,117 @@ public final class DiceLaw {
             return settled(at(clauses, law * FACES + face), laws, at(yesterday, law));
         }
 
-        private void toss() {
+        /** Which DIE was to be thrown again matters in the end only to a question about single FACES: a fine one. */
+        private int lotSign(int aim) {
+            return fine ? aim : Math.min(aim, 0);
+        }
+
+        private void toss(boolean forFaces) {
+            fine = forFaces;
             sortTypes();
             int size = 1;
             for (int law = 0; law < laws; law++) {
+                put(lies, law, UNSEEN);
                 put(steps, law, size);
-                size *= at(types.many, law);
+                size *= at(lots.many, law);
             }
             clear(ends, size);
             clear(byThrown, byThrown.length);
-            fall(0, 0, 1);
+            look(0, 0, 1);
         }
 
         private void sortTypes() {
             types.empty();
+            lots.empty();
             for (int cell = 0; cell < laws * FACES; cell++) {
                 int weight = at(weights, cell);
-                int aim = aimOf(at(clauses, cell), laws);
-                put(typeOf, cell, weight == 0 ? NONE : types.add(cell / FACES, aim, weight));
+                if (weight > 0) {
+                    int law = cell / FACES;
+                    int aim = aimOf(at(clauses, cell), laws);
+                    int lot = lots.add(law, lotSign(aim), weight);
+                    put(lotOfType, law * FACES + types.add(law, aim, weight), lot);
+                    put(lotOfFace, cell, lot);
+                }
             }
         }
 
-        /** The DIE of this LAW and the later ones fall for the first time. */
-        private void fall(int law, int index, long ways) {
-            if (law >= laws) {
-                turn(0, 0, index, ways);
+        /**
+         * Looks at the lowest DIE that was not seen since it fell, from this LAW on: those that were seen have no DIE
+         * thrown again, or have had it so.
+         */
+        private void look(int law, int thrown, long ways) {
+            int next = law;
+            while (next < laws && at(lies, next) != UNSEEN) {
+                next++;
+            }
+            if (next >= laws) {
+                rest(thrown, ways);
                 return;
             }
-            for (int type = 0; type < at(types.many, law); type++) {
-                lay(law, type);
-                fall(law + 1, index + type * at(steps, law), ways * types.shareOf(law, type));
+            for (int type = 0; type < at(types.many, next); type++) {
+                put(lies, next, type);
+                long now = ways * types.shareOf(next, type);
+                if (types.signOf(next, type) == NONE) {
+                    look(next + 1, thrown, now);
+                } else {
+                    throwAgain(next, thrown, now);
+                }
             }
+            put(lies, next, UNSEEN);
         }
 
-        /** The next DIE is thrown again, if one is. */
-        private void turn(int done, int thrown, int index, long ways) {
-            int law = lowest(aims, laws, done);
-            if (law == NONE) {
-                rest(thrown, index, ways);
-                return;
-            }
-            int die = at(aims, law);
+        private void throwAgain(int law, int thrown, long ways) {
+            int die = types.signOf(law, at(lies, law));
             int before = at(lies, die);
-            int lowered = index - before * at(steps, die);
-            if (thrown + 1 >= THROWS_AGAIN) {
-                lastTurn(die, lowered, ways);
+            // a DIE that is thrown again unseen has shown any FACE
+            long now = before == UNSEEN ? ways * TOGETHER : ways;
+            put(lies, die, UNSEEN);
+            if (thrown + 1 < THROWS_AGAIN) {
+                look(Math.min(law, die), thrown + 1, now);
+            } else {
+                rest(THROWS_AGAIN, now);
+            }
+            put(lies, die, before);
+        }
+
+        /** Nothing is thrown any more, so that it does not matter what the unseen DICE show. */
+        private void rest(int thrown, long ways) {
+            long now = ways;
+            for (int i = thrown; i < THROWS_AGAIN; i++) {
+                now *= TOGETHER;
+            }
+            long all = now;
+            for (int law = 0; law < laws; law++) {
+                all *= at(lies, law) == UNSEEN ? TOGETHER : 1;
+            }
+            raise(byThrown, thrown, all);
+            spread(0, 0, now);
+        }
+
+        /** Counts the ways where they end; those of an unseen DIE in all its lots. */
+        private void spread(int law, int index, long ways) {
+            if (law >= laws) {
+                raise(ends, index, ways);
                 return;
             }
-            int doneNow = (done | 1 << law) & ~(1 << die);
-            for (int type = 0; type < at(types.many, die); type++) {
-                lay(die, type);
-                turn(doneNow, thrown + 1, lowered + type * at(steps, die), ways * types.shareOf(die, type));
+            int type = at(lies, law);
+            int step = at(steps, law);
+            if (type != UNSEEN) {
+                spread(law + 1, index + at(lotOfType, law * FACES + type) * step, ways);
+                return;
             }
-            lay(die, before);
-        }
-
-        /** The last time that a DIE may be thrown again: whatever it shows, nothing follows. */
-        private void lastTurn(int die, int lowered, long ways) {
-            for (int type = 0; type < at(types.many, die); type++) {
-                raise(ends, lowered + type * at(steps, die), ways * types.shareOf(die, type));
+            for (int lot = 0; lot < at(lots.many, law); lot++) {
+                spread(law + 1, index + lot * step, ways * lots.shareOf(law, lot));
             }
-            raise(byThrown, THROWS_AGAIN, ways * TOGETHER);
-        }
-
-        private void lay(int law, int type) {
-            put(lies, law, type);
-            put(aims, law, types.signOf(law, type));
-        }
-
-        private void rest(int thrown, int index, long ways) {
-            long all = ways;
-            for (int i = thrown; i < THROWS_AGAIN; i++) {
-                all *= TOGETHER;
-            }
-            raise(ends, index, all);
-            raise(byThrown, thrown, all);
         }
     }
 
     /** In how many of tomorrow's ways something is so. FACES that mean the same for a question are one kind. */
     private static final class Chances {
-        private final Tomorrow tomorrow;
+        private final Tomorrow tomorrow = new Tomorrow();
         private final Kinds kinds = new Kinds();
         private final int[] kindOf = new int[LAWS * FACES];
-        private final int[] typeOf = new int[LAWS * FACES];
+        private final int[] lotOf = new int[LAWS * FACES];
         private final int[] lies = new int[LAWS];
         private final int[] shows = new int[LAWS];
         private final int[] holding = new int[LAWS];
@@ -1496,10 +1526,6 @@ public final class DiceLaw {
         private long met;
         private long most;
         private int mostFaces;
-
-        private Chances(Tomorrow tomorrow) {
-            this.tomorrow = tomorrow;
-        }
 
         private long ask(int newSort, int newOne, int newOther) {
             sort = newSort;
@@ -1523,7 +1549,7 @@ public final class DiceLaw {
                 int kind = NONE;
                 if (weight > 0) {
                     kind = kinds.add(law, meaning(tomorrow.showsOn(law, cell % FACES), cell % FACES), weight);
-                    put(typeOf, law * FACES + kind, at(tomorrow.typeOf, cell));
+                    put(lotOf, law * FACES + kind, at(tomorrow.lotOfFace, cell));
                 }
                 put(kindOf, cell, kind);
             }
@@ -1534,8 +1560,11 @@ public final class DiceLaw {
             if (sort == ASK_FACES) {
                 return face;
             }
-            if (clause >= THROW_AGAIN) {
+            if (clause >= COPY) {
                 return clause;
+            }
+            if (clause >= THROW_AGAIN) {
+                return THROW_AGAIN + tomorrow.lotSign(clause - THROW_AGAIN);
             }
             if (sort == ASK_FREE) {
                 return clause >= MUST_NOT && clause < MUST ? MUST_NOT : 0;
@@ -1556,10 +1585,10 @@ public final class DiceLaw {
             return sort == ASK_FORBIDDEN ? clause >= MUST_NOT && clause < MUST : clause < MUST;
         }
 
-        /** The DIE of this LAW and the later ones lie in the end. */
-        private void lay(int law, int index, long ways, long typeWays) {
+        /** The DIE of this LAW and the later ones lie in the end: in so many ways of those of their lots. */
+        private void lay(int law, int index, long ways, long lotWays) {
             if (law >= tomorrow.laws) {
-                long all = typeWays == 0 ? 0 : at(tomorrow.ends, index) / typeWays * ways;
+                long all = lotWays == 0 ? 0 : at(tomorrow.ends, index) / lotWays * ways;
                 if (sort == ASK_FACES) {
                     noteFaces(all);
                 } else if (all > 0) {
@@ -1569,11 +1598,17 @@ public final class DiceLaw {
             }
             int step = at(tomorrow.steps, law);
             for (int kind = 0; kind < at(kinds.many, law); kind++) {
-                int type = at(typeOf, law * FACES + kind);
+                int lot = at(lotOf, law * FACES + kind);
+                int share = kinds.shareOf(law, kind);
+                int lotShare = tomorrow.lots.shareOf(law, lot);
                 put(lies, law, kind);
                 put(shows, law, kinds.signOf(law, kind));
-                lay(law + 1, index + type * step, ways * kinds.shareOf(law, kind),
-                        typeWays * tomorrow.types.shareOf(law, type));
+                if (share == lotShare) {
+                    // all ways of the lot: those of several types need not be a multiple of its share
+                    lay(law + 1, index + lot * step, ways, lotWays);
+                } else {
+                    lay(law + 1, index + lot * step, ways * share, lotWays * lotShare);
+                }
             }
         }
 

@@ -280,13 +280,16 @@ public final class ModelTest {
     private final int most;
     private final int throwing;
     private final int deeds;
+    private final boolean loaded;
     private final int callsAhead = Due.calls();
 
+    /** Every 30th run has many LAWS with many t, and DICE that fall on three FACES at most, so that it ends soon. */
     private ModelTest(long seed) {
         random = new Random(seed);
-        most = 1 + random.nextInt(seed % 40 == 0 ? 5 : seed % 5 == 0 ? 4 : 3);
-        throwing = 1 + random.nextInt(4);
-        deeds = 1 + random.nextInt(6);
+        loaded = seed % 30 == 7;
+        most = loaded ? 4 + random.nextInt(2) : 1 + random.nextInt(seed % 40 == 0 ? 5 : seed % 5 == 0 ? 4 : 3);
+        throwing = loaded ? 6 + random.nextInt(9) : 1 + random.nextInt(4);
+        deeds = loaded ? 1 : 1 + random.nextInt(6);
     }
 
     private int clause() {
@@ -328,6 +331,12 @@ public final class ModelTest {
 
     private int[] weights() {
         int[] w = new int[6];
+        if (loaded) {
+            for (int i = 0; i < 3; i++) {
+                w[random.nextInt(6)] += 4;
+            }
+            return w;
+        }
         for (int i = 0; i < 12; i++) {
             w[random.nextInt(random.nextBoolean() ? 6 : 3)]++;
         }
@@ -347,7 +356,16 @@ public final class ModelTest {
         if (taken) {
             m.laws.add(law);
             m.weights.add(new int[] {2, 2, 2, 2, 2, 2});
+            if (loaded) {
+                weigh(m.laws.size() - 1);
+            }
         }
+    }
+
+    private void weigh(int law) {
+        int[] w = weights();
+        Due.is("P7 weigh", x.weigh(law, w[0], w[1], w[2], w[3], w[4], w[5]), true);
+        m.weights.set(law, w);
     }
 
     private int callsLeft() {
@@ -384,12 +402,9 @@ public final class ModelTest {
                     law();
                 }
                 break;
-            case 1: {
-                int[] w = weights();
-                Due.is("P7 weigh", x.weigh(law, w[0], w[1], w[2], w[3], w[4], w[5]), true);
-                m.weights.set(law, w);
+            case 1:
+                weigh(law);
                 break;
-            }
             case 2: {
                 long v = random.nextLong();
                 x.seed(v);
@@ -455,7 +470,7 @@ public final class ModelTest {
                 amendments(law, face, deed);
                 break;
             case 22:
-                if (m.laws.size() < 4 || random.nextInt(10) == 0) {
+                if (m.laws.size() < 4 || loaded || random.nextInt(10) == 0) {
                     help(deed);
                 }
                 break;
@@ -811,7 +826,30 @@ public final class ModelTest {
         }
     }
 
+    /** Five LAWS of which each FACE has another DIE thrown again, but one. */
+    private static void fullest() {
+        ModelTest test = new ModelTest(0);
+        for (int law = 0; law < 5; law++) {
+            int[] clauses = {40, 41, 42, 43, 44, 10 + 10 * (law % 2)};
+            int other = clauses[5 - law];
+            clauses[5 - law] = clauses[5];
+            clauses[5] = other;
+            StringBuilder text = new StringBuilder();
+            for (int i = 0; i < 6; i++) {
+                text.append(i > 0 ? "," : "").append(told(clauses[i]));
+            }
+            Due.type(test.x, text.toString());
+            Due.is("P5 text(0)", test.x.text(0), law);
+            test.m.laws.add(clauses);
+            test.m.weights.add(new int[] {2, 2, 2, 2, 2, 2});
+        }
+        test.odds(0);
+        test.given(0);
+        test.likeliest();
+    }
+
     public static void main(String[] args) {
+        fullest();
         int runs = args.length > 0 ? Integer.parseInt(args[0]) : 1500;
         for (int seed = 1; seed <= runs; seed++) {
             new ModelTest(seed).steps();
